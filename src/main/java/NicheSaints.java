@@ -588,9 +588,8 @@ public final class NicheSaints {
 
     /** Of all orders, were they so now: how many fit (what = 0), the place of the first that does (1). */
     private int ordersThatFit(int saint, int row, int i, int n, int what) {
-        int many = orders.howMany(now);
+        int many = orders.begin(now);
         int fitting = 0;
-        orders.begin(now);
         for (int place = 0; place < many; place++) {
             trial.become(now);
             System.arraycopy(orders.things, 0, trial.things, 0, now.size);
@@ -677,12 +676,6 @@ public final class NicheSaints {
             size = other.size;
             step = other.step;
             night = other.night;
-        }
-
-        void empty() {
-            size = 0;
-            step = 0;
-            night = 0;
         }
 
         boolean isSaint(int saint) {
@@ -888,7 +881,7 @@ public final class NicheSaints {
         /** Reads and empties the tape into draft; the place of the FAULT, or -1. */
         int read() {
             int bytes = size;
-            draft.empty();
+            draft.size = 0;
             stage = AT_LAW;
             int at = 0;
             for (int token = 0; token < MOST_BYTES && at < bytes; token++) {
@@ -1030,9 +1023,9 @@ public final class NicheSaints {
             return place;
         }
 
-        /** The least row comes to things. */
-        void begin(Ring ring) {
-            tally(ring);
+        /** The least row comes to things; how many rows there are. */
+        int begin(Ring ring) {
+            int many = howMany(ring);
             size = 0;
             for (int thing = 0; thing <= MOST_THING; thing++) {
                 for (int i = 0; i < counts[thing] && size < MOST_SAINTS; i++) {
@@ -1040,6 +1033,7 @@ public final class NicheSaints {
                     size++;
                 }
             }
+            return many;
         }
 
         /** The next greater row comes to things; behind the greatest they stay. */
@@ -1090,7 +1084,6 @@ public final class NicheSaints {
             int used = 0;
             for (int saint = 0; saint < ring.size; saint++) {
                 things[saint] = shelf.items[from + saint];
-                aims[saint] = NONE;
             }
             for (int saint = 0; saint < ring.size; saint++) {
                 int place = freePlaceOf(ring.things[saint], used, ring.size);

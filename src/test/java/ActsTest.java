@@ -5,6 +5,7 @@ public final class ActsTest {
     public static void main(String[] args) {
         nobody();
         turns();
+        taken();
         matins();
         stepsWrongly();
         fullOfSteps();
@@ -59,11 +60,30 @@ public final class ActsTest {
         turn("r9;p1;h0;", 1, 1);
         turn("r9;h1;h0;h2;", 102, 102);
         turn("r9;o0;g2;", 20, 20);
+        turn("r9;o0;g1;g2;", 201, 210);
+        turn("r9;p1;p2;o0;", 201, 201);
+        turn("r9;h1;o0;p5;", 105, 105);
         turn("r9;o0;h2;", 2, 2);
         turn("r9;o1;g2;", 12, 12);
         turn("r9;h0;g1;o0;", 1, 1);
         turn("r9;g1;o0;", 1, 1);
         turn("r9;g0;g5;o0;", 500, 5, 5);
+    }
+
+    /** By hand the proud one has a THING again ahead of STEP 1, in which it keeps it: only the hood takes it. */
+    private static void taken() {
+        NicheSaints x = Check.of("r9;h1;p2;o0;");
+        x.steps(1);
+        check.due("count(4): handed on", x.count(4), 102);
+        x.swap(1, 2);
+        x.steps(1);
+        check.due("count(4): taken by the hood", x.count(4), 102);
+        x.swap(0, 2);
+        x.swap(1, 2);
+        check.due("count(4)", x.count(4), 210);
+        x.night(5);
+        x.steps(1);
+        check.due("count(4): handed on, as STEP was 2", x.count(4), 201);
     }
 
     private static void matins() {
@@ -129,6 +149,7 @@ public final class ActsTest {
         check.due("night(0)", x.night(0), NicheSaints.BAD);
         check.due("night(10)", x.night(10), NicheSaints.BAD);
         check.due("count(6)", x.count(6), 0);
+        check.due("night(9)", x.night(9), 9);
         check.due("night(3)", x.night(3), 9);
         check.due("night(2)", x.night(2), 3);
         check.due("count(3)", x.count(3), 2);
@@ -136,7 +157,7 @@ public final class ActsTest {
         check.due("count(4)", x.count(4), 25);
         x.steps(1);
         check.due("count(4): MATINS behind the second STEP", x.count(4), 52);
-        check.due("count(6)", x.count(6), 4);
+        check.due("count(6)", x.count(6), 5);
     }
 
     private static void undone() {

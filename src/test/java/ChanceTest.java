@@ -32,6 +32,8 @@ public final class ChanceTest {
         sleep(y, 0, 1, 4, 36 + 16, 100, 13, 25);
         sleep(y, 0, 2, 4, 48, 100, 12, 25);
         sleep(y, 0, 1, 1, 82, 100, 41, 50);
+        // 1 is handed on twice, and then kept (81), or it stays, and SAINT 2 changes none for it (90).
+        sleep(Check.of("r9;g1;g0;g0;"), 2, 1, 1, 171, 1000);
         NicheSaints z = Check.of("r9;h1;h2;h3;h4;h5;h6;h7;");
         sleep(z, 6, 7, 1, 1, 1);
         NicheSaints w = Check.of("r9;g1;h0;h0;h0;h0;h0;h0;");
@@ -74,6 +76,7 @@ public final class ChanceTest {
         check.due("sleep(0, 10, 0, 0)", x.sleep(0, 10, 0, 0), NicheSaints.BAD);
         check.due("sleep(0, 0, -1, 0)", x.sleep(0, 0, -1, 0), NicheSaints.BAD);
         check.due("sleep(0, 0, 11, 0)", x.sleep(0, 0, 11, 0), NicheSaints.BAD);
+        check.due("sleep(0, 1, 11, 1)", x.sleep(0, 1, 11, 1), NicheSaints.BAD);
         check.due("sleep(0, 0, 0, -1)", x.sleep(0, 0, 0, -1), NicheSaints.BAD);
         check.due("sleep(0, 0, 0, 2)", x.sleep(0, 0, 0, 2), NicheSaints.BAD);
     }
@@ -107,6 +110,7 @@ public final class ChanceTest {
         check.due("drawn(2, 1, 1)", y.drawn(2, 1, 1), 1);
         check.due("drawn(3, 1, 0)", y.drawn(3, 1, 0), 21);
         check.due("drawn(3, 1, 1)", y.drawn(3, 1, 1), 2);
+        check.due("SAINT 0 in a hood", Check.of("r9;o1;h2;").drawn(4, 5, 1), 4);
         // Two hoods with things count once a STEP.
         check.due("two hoods", Check.of("r9;o1;o2;").drawn(7, 5, 1), 7);
     }

@@ -45,6 +45,7 @@ public final class ChangesTest {
         swaps("r1;g1;g2;", NicheSaints.NONE, NicheSaints.NONE, 1, 1);
         swaps("r1;g1;g2;", NicheSaints.NONE, NicheSaints.NONE, 1, 0);
         swaps("r1;g1;g0;", NicheSaints.NONE, NicheSaints.NONE, 0, 0);
+        swaps("r1;g1;g0;g0;", NicheSaints.NONE, NicheSaints.NONE, 1, 0, 2);
         swaps("r1;g1;g2;", NicheSaints.NONE, NicheSaints.NONE, -1, 2);
         swaps("r1;g1;g2;", NicheSaints.NONE, NicheSaints.NONE, Integer.MAX_VALUE, Integer.MIN_VALUE);
         NicheSaints x = Check.of("r1;g1;g2;");
@@ -79,6 +80,7 @@ public final class ChangesTest {
         sort("r1;g1;g2;g3;", row(3, 1, 2), 1, 0);
         sort("r1;g1;g0;g0;", row(0, 0, 1), 0, 1);
         sort("r1;g0;g1;g0;", row(0, 0, 1), 1);
+        sort("r1;g0;g0;g1;", row(0, 1, 0), 1);
         sort("r1;g0;g1;g2;g0;", row(1, 0, 0, 2), 0, 2);
         sort("r1;g7;g6;g5;g4;g3;g2;g1;", row(1, 2, 3, 4, 5, 6, 7),
                 0, 1, 0, 2, 1, 0, 3, 2, 1, 0, 4, 3, 2, 1, 0, 5, 4, 3, 2, 1, 0);
@@ -95,6 +97,7 @@ public final class ChangesTest {
         Check.lay(x, 0, 9, 3, 1, 2);
         check.due("swaps(0, 1, 0)", x.swaps(0, 1, 0), 2);
         check.due("sort(0, 1, -1)", x.sort(0, 1, -1), 2);
+        check.due("status()", x.status(), 0);
         check.due("swaps(0, 0, 0)", x.swaps(0, 0, 0), NicheSaints.NONE);
         check.due("swaps(0, 2, 0)", x.swaps(0, 2, 0), PLACE);
         check.due("swaps(0, -1, 0)", x.swaps(0, -1, 0), PLACE);
@@ -111,6 +114,9 @@ public final class ChangesTest {
         check.due("BAD is ahead of NULL", x.sort(3, 0, -2), NicheSaints.BAD);
         check.due("status()", x.status(), 2);
         check.due("sort(0, 1, 0)", x.sort(0, 1, 0), 1);
+        check.due("status()", x.status(), 0);
+        x.sort(0, 2, 0);
+        check.due("swaps(0, 1, 1)", x.swaps(0, 1, 1), 1);
         check.due("status()", x.status(), 0);
         check.due("count(4)", x.count(4), 123);
         check.due("count(6)", x.count(6), 0);

@@ -85,6 +85,9 @@ public final class CluesTest {
         check.due("the first with 1", x.began(0, 0, 1, 1, 1), 2);
         NicheSaints y = Check.of("r9;h1;h2;h3;h4;h5;h6;h7;");
         Check.lay(y, 1, 7, 7, 7, 7, 7, 7, 7, 7, 7, 7, 7, 7);
+        NicheSaints z = Check.of("r9;h9;h8;");
+        Check.lay(z, 0, 9);
+        check.due("the greatest THING", z.began(0, 0, 0, 1, 1), 1);
         check.due("seven, 12 STEPS", y.began(0, 1, 0, 12, 0), 720);
         check.due("the first", y.began(0, 1, 0, 12, 1), 4320);
     }
@@ -133,6 +136,12 @@ public final class CluesTest {
         both(x, 0, 0, Integer.MAX_VALUE, 1, 1, PLACE);
         both(x, 0, 0, Integer.MIN_VALUE, 12, 1, PLACE);
         both(x, 0, 0, 8, 12, 0, 0);
+        check.due("status()", x.status(), 0);
+        x.drop(1);
+        check.due("fits(0, 0, 0, 1, 1)", x.fits(0, 0, 0, 1, 1), 0);
+        check.due("status()", x.status(), 0);
+        x.drop(1);
+        check.due("began(0, 0, 0, 1, 1)", x.began(0, 0, 0, 1, 1), NicheSaints.NONE);
         check.due("status()", x.status(), 0);
     }
 }

@@ -40,6 +40,7 @@ public final class ForetoldTest {
         check.due("count(6)", x.count(6), 0);
         x.steps(1);
         check.due("ahead(0, 2) from STEP 1", x.ahead(0, 2), 0);
+        check.due("ahead of givers", Check.of("r9;g1;h0;g3;").ahead(1, 1), 1);
     }
 
     private static void when() {
@@ -55,6 +56,9 @@ public final class ForetoldTest {
         check.due("when(1, 2): at MATINS", y.when(1, 2), 9);
         check.due("when(0, 5)", y.when(0, 5), 9);
         check.due("when(0, 9)", y.when(0, 9), NicheSaints.NONE);
+        check.due("when: 60 STEPS on", Check.of("r6;p5;p6;o2;p4;s3;g7;g0;").when(2, 3), 60);
+        check.due("when: 61 STEPS on", Check.of("r9;o6;h3;g8;p0;g2;g4;p7;").when(3, 3), NicheSaints.NONE);
+        check.due("when: behind a giver's TURN", Check.of("r9;g1;g2;g3;").when(1, 3), 1);
         y.steps(5);
         check.due("when(1, 2) from STEP 5", y.when(1, 2), 4);
         check.due("count(2)", y.count(2), 5);
@@ -77,6 +81,10 @@ public final class ForetoldTest {
         y.steps(1);
         y.night(1);
         check.due("pray(2): not the MATINS that were", y.pray(2), 2);
+        y.night(9);
+        check.due("pray(2): 7 STEPS on", y.pray(2), 2);
+        check.due("pray of givers, 9 STEPS on", Check.of("r9;g1;g2;g3;").pray(3), 1);
+        check.due("pray of one that is handed on at last", Check.of("r2;p1;h0;g3;").pray(1), 1);
     }
 
     private static void round() {

@@ -141,6 +141,7 @@ public final class RowsTest {
         check.due("status()", x.status(), 1);
         x.row(0, 1, 7);
         x.row(1, 1, 0);
+        x.set(0, 7, 1);
         check.due("drop(0)", x.drop(0), 7);
         check.due("status()", x.status(), 0);
         check.due("drop(1)", x.drop(1), 0);
