@@ -1,17 +1,27 @@
 /** What the tests share: objects with a text read into them, and answers compared with those that are due. */
 final class Check {
     private final String name;
+    private String sentence = "";
     private int wrong;
 
     Check(String name) {
         this.name = name;
     }
 
+    /** The sentence of the document that the answers from here on are due to. */
+    void of(String promise, String words) {
+        sentence = promise + " \"" + words + "\": ";
+    }
+
     void due(String call, int got, int want) {
         if (got != want) {
             wrong++;
-            System.out.println(name + ": " + call + " answered " + got + ", due is " + want);
+            System.out.println(name + ": " + sentence + call + " answered " + got + ", due is " + want);
         }
+    }
+
+    void holds(String what, boolean does) {
+        due(what, does ? 1 : 0, 1);
     }
 
     /** Ends the program with 1 if an answer was not as due. */
@@ -22,10 +32,19 @@ final class Check {
         }
     }
 
-    static int read(NicheSaints x, String text) {
+    /** The numbers beside least .. most, and those farthest off, on both sides. */
+    static int[] beside(int least, int most) {
+        return new int[] {Integer.MIN_VALUE, least - 1, most + 1, Integer.MAX_VALUE};
+    }
+
+    static void feed(NicheSaints x, String text) {
         for (int i = 0; i < text.length(); i++) {
             x.feed(text.charAt(i));
         }
+    }
+
+    static int read(NicheSaints x, String text) {
+        feed(x, text);
         return x.saints();
     }
 

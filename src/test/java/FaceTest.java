@@ -37,33 +37,34 @@ public final class FaceTest {
 
     private static void members() {
         int modifiers = NicheSaints.class.getModifiers();
-        holds("the class is public and final", Modifier.isPublic(modifiers) && Modifier.isFinal(modifiers));
+        check.holds("the class is public and final", Modifier.isPublic(modifiers) && Modifier.isFinal(modifiers));
         Constructor<?>[] constructors = NicheSaints.class.getDeclaredConstructors();
-        holds("one public constructor", constructors.length == 1
+        check.holds("one public constructor", constructors.length == 1
                 && Modifier.isPublic(constructors[0].getModifiers()) && constructors[0].getParameterCount() == 0);
         Set<String> face = new TreeSet<>();
         for (Method method : NicheSaints.class.getDeclaredMethods()) {
             if (!Modifier.isPrivate(method.getModifiers())) {
                 face.add(method.getName() + " " + method.getParameterCount());
-                holds(method + " answers an int", method.getReturnType() == int.class);
+                check.holds(method + " answers an int", method.getReturnType() == int.class);
             }
         }
-        holds("the methods are those of the document: " + face, face.equals(new TreeSet<>(Set.of(METHODS))));
+        check.holds("the methods are those of the document: " + face, face.equals(new TreeSet<>(Set.of(METHODS))));
         for (Method method : NicheSaints.class.getDeclaredMethods()) {
             if (Modifier.isPrivate(method.getModifiers())) {
-                holds(method + " has a name of its own", face.stream().noneMatch(f -> f.startsWith(method.getName() + " ")));
+                check.holds(method + " has a name of its own",
+                        face.stream().noneMatch(f -> f.startsWith(method.getName() + " ")));
             }
         }
         for (Field field : NicheSaints.class.getDeclaredFields()) {
             boolean told = field.getName().matches("NONE|BAD|STATE|FULL");
-            holds(field + " is seen only if it is told", told == !Modifier.isPrivate(field.getModifiers()));
-            holds(field + " is no changing static", !Modifier.isStatic(field.getModifiers())
+            check.holds(field + " is seen only if it is told", told == !Modifier.isPrivate(field.getModifiers()));
+            check.holds(field + " is no changing static", !Modifier.isStatic(field.getModifiers())
                     || Modifier.isFinal(field.getModifiers()));
         }
         for (Class<?> inner : NicheSaints.class.getDeclaredClasses()) {
-            holds(inner + " is static", Modifier.isStatic(inner.getModifiers()));
+            check.holds(inner + " is static", Modifier.isStatic(inner.getModifiers()));
         }
-        holds("some twelve classes at most", NicheSaints.class.getDeclaredClasses().length <= 11);
+        check.holds("some twelve classes at most", NicheSaints.class.getDeclaredClasses().length <= 11);
     }
 
     private static void text(String source) {
@@ -71,22 +72,20 @@ public final class FaceTest {
         for (String word : new String[] {"throw", "throws", "try", "catch", "synchronized", "assert", "package", "Exact",
             "System.out", "Random", "hashCode", "toString"}) {
             Matcher matcher = Pattern.compile("\\b" + Pattern.quote(word) + "\\b").matcher(code);
-            holds("no " + word, !matcher.find());
+            check.holds("no " + word, !matcher.find());
         }
-        holds("no lambda, no method reference", !code.contains("->") && !code.contains("::"));
-        holds("texts of 1 to 127", code.chars().allMatch(c -> c >= 1 && c <= 127));
+        check.holds("no lambda, no method reference", !code.contains("->") && !code.contains("::"));
+        check.holds("texts of 1 to 127", code.chars().allMatch(c -> c >= 1 && c <= 127));
         Matcher imports = Pattern.compile("import ([^;]*);").matcher(code);
         while (imports.find()) {
-            holds("import " + imports.group(1), imports.group(1).matches("java\\.util\\.(Arrays|ArrayList|List)"));
+            check.holds("import " + imports.group(1),
+                    imports.group(1).matches("java\\.util\\.(Arrays|ArrayList|List)"));
         }
         // Rows are made in constructors and used again: a call makes no object.
         Matcher made = Pattern.compile("(?m)^.*\\bnew\\b.*$").matcher(code);
         while (made.find()) {
-            holds("made once: " + made.group(), made.group().contains("final") || made.group().matches(".*\\[\\w\\] = new \\w+\\(\\);"));
+            check.holds("made once: " + made.group(), made.group().contains("final")
+                    || made.group().matches(".*\\[\\w\\] = new \\w+\\(\\);"));
         }
-    }
-
-    private static void holds(String rule, boolean kept) {
-        check.due(rule, kept ? 1 : 0, 1);
     }
 }
