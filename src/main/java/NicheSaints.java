@@ -22,7 +22,6 @@ public final class NicheSaints {
     private static final int[] WIDER = {-1, SAINT, GIVER, GIVER, SAINT, HOLD};
     private static final int[] SIZE_BODY = {10, 11, 12, 11, 13, 14};
     private static final int[] MARK_BODY = {20, 21, 24, 22, 23, 23};
-    private static final int[] FACTORIAL = {1, 1, 2, 6, 24, 120, 720, 5040};
 
     private final Shelf[] shelves = new Shelf[ROWS];
     private final Tape tape = new Tape();
@@ -1070,7 +1069,11 @@ public final class NicheSaints {
 
         /** Rows of as many THINGS as are left in counts; none but 0 is there twice. */
         private int ways(int left) {
-            return FACTORIAL[left] / FACTORIAL[counts[0]];
+            int many = 1;
+            for (int i = counts[0] + 1; i <= left; i++) {
+                many *= i;
+            }
+            return many;
         }
     }
 
